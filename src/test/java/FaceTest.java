@@ -1,0 +1,58 @@
+import java.io.IOException;
+import java.lang.reflect.Constructor;
+import java.lang.reflect.Field;
+import java.lang.reflect.Method;
+import java.lang.reflect.Modifier;
+import java.nio.file.Files;
+import java.nio.file.Path;
+import java.util.Arrays;
+import java.util.TreeSet;
+
+/** The class has the document's face and no other member, and keeps to what LANGUAGE.md lets be searched for. */
+public final class FaceTest {
+    private static final String[] FACE = {
+        "NONE = -1", "SIGN = -2", "TWICE = -3", "NUMBER = -4", "HEAVY = -5", "MANY = -6", "RING = -7", "VALENCE = -8",
+        "IsomerList()",
+        "int type(char) IllegalStateException", "int erase()", "int formula()", "int read()", "int place()",
+        "int count(int)", "int element(int) IndexOutOfBoundsException",
+        "int bond(int,int,int) IndexOutOfBoundsException", "int hydrogens(int,int) IndexOutOfBoundsException",
+        "int ways(int) IndexOutOfBoundsException", "int write(int) IndexOutOfBoundsException", "char character(int)"};
+    private static final String[] BANNED = {
+        "->", "::", "finally", "synchronized", "assert ", "static {", "package ", "System.out", "catch", "Random",
+        "@Override", "hashCode", "toString", "double", "float"};
+
+    public static void main(String[] args) throws IOException, IllegalAccessException {
+        Check.due("face", String.join("\n", visible()), String.join("\n", new TreeSet<>(Arrays.asList(FACE))));
+        Check.due("final", Modifier.isFinal(IsomerList.class.getModifiers()) ? 1 : 0, 1);
+        String source = Files.readString(Path.of("src/main/java/IsomerList.java"));
+        for (String banned : BANNED) {
+            Check.due("place of '" + banned + "' in the source", source.indexOf(banned), -1);
+        }
+        Check.due("imports", source.lines().filter(l -> l.startsWith("import")).toList().toString(),
+                "[import java.util.Arrays;]");
+        Check.end();
+    }
+
+    private static TreeSet<String> visible() throws IllegalAccessException {
+        TreeSet<String> found = new TreeSet<>();
+        for (Field field : IsomerList.class.getDeclaredFields()) {
+            if (!Modifier.isPrivate(field.getModifiers())) {
+                found.add(field.getName() + " = " + field.getInt(null));
+            }
+        }
+        for (Constructor<?> made : IsomerList.class.getDeclaredConstructors()) {
+            found.add(made.getName() + types(made.getParameterTypes()));
+        }
+        for (Method method : IsomerList.class.getDeclaredMethods()) {
+            if (!Modifier.isPrivate(method.getModifiers())) {
+                String thrown = method.getExceptionTypes().length == 0 ? "" : " " + method.getExceptionTypes()[0].getSimpleName();
+                found.add(method.getReturnType() + " " + method.getName() + types(method.getParameterTypes()) + thrown);
+            }
+        }
+        return found;
+    }
+
+    private static String types(Class<?>[] types) {
+        return "(" + String.join(",", Arrays.stream(types).map(Class::getName).toList()) + ")";
+    }
+}
