@@ -136,6 +136,9 @@ public final class PromiseTest {
         Check.retype(list, "C2H6O");
         Check.due("a new formula", list.formula(), 2);
         Check.due("the same again", list.formula(), 2);
+        Check.retype(list, "C2H6S");
+        Check.due("one that differs in an element alone", list.formula(), 2);
+        Check.due("which is the list's now", list.element(2), 3);
     }
 
     private static void dueRead(String formula, String text, int answer, int place) {
@@ -170,6 +173,12 @@ public final class PromiseTest {
         dueFound("HBr", "Br", 0);
         dueFound("N2", "N#N", 0);
         dueFound("CH4", "C", 0);
+        dueFound("CH4", "CC", IsomerList.NONE);
+        dueFound("CH4", "CO", IsomerList.NONE);
+        dueFound("C2H6", "CCO", IsomerList.NONE);
+        dueFound("PH3", "N", IsomerList.NONE);
+        dueFound("C2H6O", "CCS", IsomerList.NONE);
+        dueFound("C2H6O", "C(C)(C)(C)(C)", IsomerList.NONE);
         IsomerList list = Check.of("C6H10");
         Check.retype(list, "C1CC1C2CC2");
         int two = list.read();
@@ -347,6 +356,10 @@ public final class PromiseTest {
         dueWrite("C4H10", "C(C)(C)C", "C(CC)C");
         dueWrite("N2", "N#N");
         dueWrite("HBr", "Br");
+        dueWrite("P4", "P1=PP=P1", "P12P3P1P23");
+        dueWrite("N4H2", "N1=NN1N", "N1=NNN1", "N(=N)N=N", "N12N(N1)N2");
+        dueWrite("C5", "C1#CC12C#C2", "C1#CC=2C1=C=2", "C=1=C=C=C=C=1", "C=1=C2C=3C=1C2=3", "C12=C3C14C2=C34",
+                "C124C35C16C23C456");
         dueWrite("CCl2F2", "C(F)(F)(Cl)Cl");
         IsomerList list = Check.of("C2H6O");
         Check.dueThrow("write of structure 2", () -> list.write(2), NO_SUCH);
