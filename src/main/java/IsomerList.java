@@ -41,20 +41,20 @@ public final class IsomerList {
     private final Numbering numbering;
     private final Lister lister;
     private final Molecule shown;
-    private Catalogue current;
-    private Catalogue spare;
+    private final Catalogue current;
+    private final Catalogue draft;
     private int faultPlace;
 
     public IsomerList() {
         line = new Line();
         formulaReader = new FormulaReader();
         textReader = new TextReader();
-        textWriter = new TextWriter();
         numbering = new Numbering();
-        lister = new Lister(numbering);
         shown = new Molecule();
+        textWriter = new TextWriter(line, shown);
         current = new Catalogue();
-        spare = new Catalogue();
+        draft = new Catalogue();
+        lister = new Lister(numbering, draft);
         faultPlace = NONE;
     }
 
@@ -75,8 +75,8 @@ public final class IsomerList {
     public int formula() {
         int fault = formulaReader.readFrom(line);
         if (fault == NONE) {
-            spare.take(formulaReader.counts);
-            fault = listSpare();
+            draft.take(formulaReader.counts);
+            fault = listDraft();
         }
         faultPlace = fault == NONE ? NONE : formulaReader.at;
         return fault == NONE ? current.size : fault;
@@ -135,7 +135,7 @@ public final class IsomerList {
     public int write(int i) throws IndexOutOfBoundsException {
         checkStructure(i);
         shown.build(current, i);
-        textWriter.writeTo(line, shown);
+        textWriter.writeAnew();
         return line.length;
     }
 
@@ -156,17 +156,15 @@ public final class IsomerList {
     }
 
     // The list is made beside the current one, which must stay if the new one is too long.
-    private int listSpare() {
-        if (spare.hasSameFormula(current)) {
+    private int listDraft() {
+        if (draft.hasSameFormula(current)) {
             return NONE;
         }
-        lister.fill(spare);
-        if (spare.isOverfull()) {
+        lister.fill();
+        if (draft.isOverfull()) {
             return MANY;
         }
-        Catalogue old = current;
-        current = spare;
-        spare = old;
+        current.copy(draft);
         return NONE;
     }
 
@@ -342,6 +340,14 @@ public final class IsomerList {
             }
         }
 
+        void copy(Catalogue other) {
+            atoms = other.atoms;
+            hydrogenSum = other.hydrogenSum;
+            size = other.size;
+            System.arraycopy(other.kinds, 0, kinds, 0, MOST_ATOMS);
+            System.arraycopy(other.codes, 0, codes, 0, MOST_STRUCTURES);
+        }
+
         // One structure too many is counted, but not kept: it only tells that there are too many.
         void add(int code) {
             if (size < MOST_STRUCTURES) {
@@ -463,43 +469,37 @@ public final class IsomerList {
     private static final class Numbering {
         private final int[] chosen = new int[MOST_ATOMS];
         private final boolean[] taken = new boolean[MOST_ATOMS];
-        private Molecule molecule;
-        private int[] wanted;
         private int atoms;
         private int greatest;
         private int sharers;
 
         // The floor is a code that some numbering has, or 0: numberings below it need not be tried.
         void search(Molecule tried, int[] kindsByNumber, int floor) {
-            molecule = tried;
-            wanted = kindsByNumber;
             atoms = tried.atoms;
             greatest = floor;
             sharers = 0;
-            choose(0, 0);
+            choose(tried, kindsByNumber, 0, 0);
         }
 
         // Rows of the first atoms begin the code of all: who can be told better there, can be for good.
         boolean isGreatest(Molecule tried, int first, int code) {
-            molecule = tried;
-            wanted = tried.kinds;
             atoms = first;
-            return !canBeBeaten(0, code);
+            return !canBeBeaten(tried, 0, code);
         }
 
-        private void choose(int k, int code) {
+        private void choose(Molecule tried, int[] kindsByNumber, int k, int code) {
             if (k >= atoms) {
                 noteCode(code);
                 return;
             }
             int shift = rowShift(k);
             for (int a = 0; a < atoms; a++) {
-                if (!taken[a] && molecule.kinds[a] == wanted[k]) {
-                    int next = code | row(k, a) << shift;
+                if (!taken[a] && tried.kinds[a] == kindsByNumber[k]) {
+                    int next = code | row(tried, k, a) << shift;
                     if (next >> shift >= greatest >> shift) {
                         chosen[k] = a;
                         taken[a] = true;
-                        choose(k + 1, next);
+                        choose(tried, kindsByNumber, k + 1, next);
                         taken[a] = false;
                     }
                 }
@@ -514,15 +514,15 @@ public final class IsomerList {
             sharers++;
         }
 
-        private boolean canBeBeaten(int k, int code) {
+        private boolean canBeBeaten(Molecule tried, int k, int code) {
             if (k >= atoms) {
                 return false;
             }
             int own = code >> rowShift(k) & (1 << NUMBER_BITS * k) - 1;
             for (int a = 0; a < atoms; a++) {
-                if (!taken[a] && molecule.kinds[a] == wanted[k]) {
-                    int row = row(k, a);
-                    if (row > own || row == own && canBeBeatenWith(k, a, code)) {
+                if (!taken[a] && tried.kinds[a] == tried.kinds[k]) {
+                    int row = row(tried, k, a);
+                    if (row > own || row == own && canBeBeatenWith(tried, k, a, code)) {
                         return true;
                     }
                 }
@@ -530,18 +530,18 @@ public final class IsomerList {
             return false;
         }
 
-        private boolean canBeBeatenWith(int k, int a, int code) {
+        private boolean canBeBeatenWith(Molecule tried, int k, int a, int code) {
             chosen[k] = a;
             taken[a] = true;
-            boolean beaten = canBeBeaten(k + 1, code);
+            boolean beaten = canBeBeaten(tried, k + 1, code);
             taken[a] = false;
             return beaten;
         }
 
-        private int row(int k, int a) {
+        private int row(Molecule tried, int k, int a) {
             int row = 0;
             for (int j = 0; j < k; j++) {
-                row = row << NUMBER_BITS | molecule.bonds[a * MOST_ATOMS + chosen[j]];
+                row = row << NUMBER_BITS | tried.bonds[a * MOST_ATOMS + chosen[j]];
             }
             return row;
         }
@@ -550,20 +550,20 @@ public final class IsomerList {
     /** Makes all structures of a formula, greatest codes first. */
     private static final class Lister {
         private final Numbering numbering;
+        private final Catalogue catalogue;
         private final Molecule molecule = new Molecule();
         private final int[] valencesFrom = new int[MOST_ATOMS + 1];
         private final int[] groups = new int[MOST_ATOMS];
-        private Catalogue catalogue;
 
-        Lister(Numbering numbering) {
+        Lister(Numbering numbering, Catalogue catalogue) {
             this.numbering = numbering;
+            this.catalogue = catalogue;
         }
 
-        void fill(Catalogue filled) {
-            catalogue = filled;
-            molecule.addAtomsOf(filled);
+        void fill() {
+            molecule.addAtomsOf(catalogue);
             sumValences();
-            int ends = valencesFrom[0] - filled.hydrogenSum;
+            int ends = valencesFrom[0] - catalogue.hydrogenSum;
             if (ends >= 0 && ends % 2 == 0) {
                 endRow(0, ends / 2, 0);
             }
@@ -640,13 +640,16 @@ public final class IsomerList {
         private final int[] cameFrom = new int[MOST_ATOMS];
         private final int[] ringStarts = new int[HIGHEST_DIGIT + 1];
         private final int[] ringEnds = new int[HIGHEST_DIGIT + 1];
+        private final Line line;
+        private final Molecule molecule;
         private int rings;
-        private Molecule molecule;
-        private Line line;
 
-        void writeTo(Line target, Molecule written) {
-            line = target;
-            molecule = written;
+        TextWriter(Line line, Molecule molecule) {
+            this.line = line;
+            this.molecule = molecule;
+        }
+
+        void writeAnew() {
             rings = 0;
             Arrays.fill(cameFrom, NOT_YET);
             // Rings are met on the way back to atoms whose sign stands earlier, so all are found first.
