@@ -23,6 +23,7 @@ public final class FaceTest {
 
     public static void main(String[] args) throws IOException, IllegalAccessException {
         Check.due("face", String.join("\n", visible()), String.join("\n", new TreeSet<>(Arrays.asList(FACE))));
+        Check.due("names of the face that other methods bear", namesBorneTwice().toString(), "[]");
         Check.due("final", Modifier.isFinal(IsomerList.class.getModifiers()) ? 1 : 0, 1);
         String source = Files.readString(Path.of("src/main/java/IsomerList.java"));
         for (String banned : BANNED) {
@@ -50,6 +51,21 @@ public final class FaceTest {
             }
         }
         return found;
+    }
+
+    private static TreeSet<String> namesBorneTwice() {
+        TreeSet<String> face = new TreeSet<>();
+        TreeSet<String> others = new TreeSet<>();
+        for (Method method : IsomerList.class.getDeclaredMethods()) {
+            (Modifier.isPublic(method.getModifiers()) ? face : others).add(method.getName());
+        }
+        for (Class<?> inside : IsomerList.class.getDeclaredClasses()) {
+            for (Method method : inside.getDeclaredMethods()) {
+                others.add(method.getName());
+            }
+        }
+        others.retainAll(face);
+        return others;
     }
 
     private static String types(Class<?>[] types) {

@@ -62,15 +62,6 @@ public final class PromiseTest {
         Check.due("erase of what was written", list.erase(), 3);
     }
 
-    private static void dueFormula(String formula, int answer, int place) {
-        IsomerList list = new IsomerList();
-        Check.typeAll(list, formula);
-        Check.due("formula " + formula, list.formula(), answer);
-        Check.due("place in " + formula, list.place(), place);
-        Check.due("line after " + formula, Check.text(list, formula.length()), formula);
-        Check.due("length after " + formula, list.erase(), formula.length());
-    }
-
     private static void promise4FormulaCounts() {
         String[] formulas = {"CH4", "C2H6", "C3H8", "C4H10", "C5H12", "C6H14", "C6H12", "C6H10", "C6H8", "C6H6",
             "C5H10", "C5H8", "C4H8", "C4H6", "C3H4", "C2H6O", "C3H8O", "C4H10O", "CH2O", "C2H4O2", "HCl", "H2O",
@@ -79,41 +70,41 @@ public final class PromiseTest {
             10, 26, 5, 9, 3, 2, 3, 7, 1, 10, 1, 1,
             491, 1, 1, 3, 0, 0, 0, 0, 0, 0, 1, 1, 1};
         for (int k = 0; k < formulas.length; k++) {
-            dueFormula(formulas[k], counts[k], IsomerList.NONE);
+            Check.dueFormula(formulas[k], counts[k], IsomerList.NONE);
         }
     }
 
     private static void promise4FormulaFaults() {
-        dueFormula("", IsomerList.SIGN, 0);
-        dueFormula("2C", IsomerList.SIGN, 0);
-        dueFormula("Cx", IsomerList.SIGN, 1);
-        dueFormula("C2h6", IsomerList.SIGN, 2);
-        dueFormula("CB", IsomerList.SIGN, 1);
-        dueFormula("BC", IsomerList.SIGN, 0);
-        dueFormula("C2 H6", IsomerList.SIGN, 2);
-        dueFormula("CL", IsomerList.SIGN, 1);
-        dueFormula("CHC", IsomerList.TWICE, 2);
-        dueFormula("CH2H", IsomerList.TWICE, 3);
-        dueFormula("BrCBr", IsomerList.TWICE, 3);
-        dueFormula("CC0", IsomerList.TWICE, 1);
-        dueFormula("ClC", 0, IsomerList.NONE);
-        dueFormula("C0", IsomerList.NUMBER, 1);
-        dueFormula("C1", IsomerList.NUMBER, 1);
-        dueFormula("C02", IsomerList.NUMBER, 1);
-        dueFormula("CH100", IsomerList.NUMBER, 2);
-        dueFormula("CH99", 0, IsomerList.NONE);
-        dueFormula("CH10", 0, IsomerList.NONE);
-        dueFormula("CCl01x", IsomerList.NUMBER, 3);
-        dueFormula("C9999999999999999999999999999999999999", IsomerList.NUMBER, 1);
-        dueFormula("C4294967298", IsomerList.NUMBER, 1);
-        dueFormula("H", IsomerList.HEAVY, 1);
-        dueFormula("H2", IsomerList.HEAVY, 2);
-        dueFormula("C7H2", IsomerList.HEAVY, 4);
-        dueFormula("C4N3", IsomerList.HEAVY, 4);
-        dueFormula("C99N99O99S99P99F99Cl99Br99I99H99", IsomerList.HEAVY, 32);
-        dueFormula("C7H2x", IsomerList.SIGN, 4);
-        dueFormula("C2N2O2H2", IsomerList.MANY, 8);
-        dueFormula("C2H4N4", IsomerList.MANY, 6);
+        Check.dueFormula("", IsomerList.SIGN, 0);
+        Check.dueFormula("2C", IsomerList.SIGN, 0);
+        Check.dueFormula("Cx", IsomerList.SIGN, 1);
+        Check.dueFormula("C2h6", IsomerList.SIGN, 2);
+        Check.dueFormula("CB", IsomerList.SIGN, 1);
+        Check.dueFormula("BC", IsomerList.SIGN, 0);
+        Check.dueFormula("C2 H6", IsomerList.SIGN, 2);
+        Check.dueFormula("CL", IsomerList.SIGN, 1);
+        Check.dueFormula("CHC", IsomerList.TWICE, 2);
+        Check.dueFormula("CH2H", IsomerList.TWICE, 3);
+        Check.dueFormula("BrCBr", IsomerList.TWICE, 3);
+        Check.dueFormula("CC0", IsomerList.TWICE, 1);
+        Check.dueFormula("ClC", 0, IsomerList.NONE);
+        Check.dueFormula("C0", IsomerList.NUMBER, 1);
+        Check.dueFormula("C1", IsomerList.NUMBER, 1);
+        Check.dueFormula("C02", IsomerList.NUMBER, 1);
+        Check.dueFormula("CH100", IsomerList.NUMBER, 2);
+        Check.dueFormula("CH99", 0, IsomerList.NONE);
+        Check.dueFormula("CH10", 0, IsomerList.NONE);
+        Check.dueFormula("CCl01x", IsomerList.NUMBER, 3);
+        Check.dueFormula("C9999999999999999999999999999999999999", IsomerList.NUMBER, 1);
+        Check.dueFormula("C4294967298", IsomerList.NUMBER, 1);
+        Check.dueFormula("H", IsomerList.HEAVY, 1);
+        Check.dueFormula("H2", IsomerList.HEAVY, 2);
+        Check.dueFormula("C7H2", IsomerList.HEAVY, 4);
+        Check.dueFormula("C4N3", IsomerList.HEAVY, 4);
+        Check.dueFormula("C99N99O99S99P99F99Cl99Br99I99H99", IsomerList.HEAVY, 32);
+        Check.dueFormula("C7H2x", IsomerList.SIGN, 4);
+        Check.dueFormula("C2N2O2H2", IsomerList.MANY, 8);
+        Check.dueFormula("C2H4N4", IsomerList.MANY, 6);
     }
 
     private static void promise4FaultsLeaveTheList() {
@@ -141,44 +132,31 @@ public final class PromiseTest {
         Check.due("which is the list's now", list.element(2), 3);
     }
 
-    private static void dueRead(String formula, String text, int answer, int place) {
-        IsomerList list = Check.of(formula);
-        Check.retype(list, text);
-        Check.due("read " + text + " in " + formula, list.read(), answer);
-        Check.due("place in " + text, list.place(), place);
-        Check.due("line after " + text, Check.text(list, text.length()), text);
-        Check.due("length after " + text, list.erase(), text.length());
-    }
-
-    private static void dueFound(String formula, String text, int answer) {
-        dueRead(formula, text, answer, IsomerList.NONE);
-    }
-
     private static void promise5ReadFinds() {
-        dueFound("C2H6O", "OCC", 0);
-        dueFound("C2H6O", "C(O)C", 0);
-        dueFound("C2H6O", "C(C)(O)", 0);
-        dueFound("C2H6O", "C-O-C", 1);
-        dueFound("C2H6O", "O(C)C", 1);
-        dueFound("C2H6O", "O(-C)(-C)", 1);
-        dueFound("C2H6O", "CC=O", IsomerList.NONE);
-        dueFound("C2H6O", "CCC", IsomerList.NONE);
-        dueFound("C2H6O", "C", IsomerList.NONE);
-        dueFound("C6H6", "C1=CC=CC=C1", 200);
-        dueFound("C6H6", "C=1C=CC=CC1", 200);
-        dueFound("C6H6", "C=1C=CC=CC=1", 200);
-        dueFound("C6H6", "C9C=CC=CC=9", 200);
-        dueFound("C6H6", "C-7=CC=CC=C7", 200);
-        dueFound("HCl", "Cl", 0);
-        dueFound("HBr", "Br", 0);
-        dueFound("N2", "N#N", 0);
-        dueFound("CH4", "C", 0);
-        dueFound("CH4", "CC", IsomerList.NONE);
-        dueFound("CH4", "CO", IsomerList.NONE);
-        dueFound("C2H6", "CCO", IsomerList.NONE);
-        dueFound("PH3", "N", IsomerList.NONE);
-        dueFound("C2H6O", "CCS", IsomerList.NONE);
-        dueFound("C2H6O", "C(C)(C)(C)(C)", IsomerList.NONE);
+        Check.dueFound("C2H6O", "OCC", 0);
+        Check.dueFound("C2H6O", "C(O)C", 0);
+        Check.dueFound("C2H6O", "C(C)(O)", 0);
+        Check.dueFound("C2H6O", "C-O-C", 1);
+        Check.dueFound("C2H6O", "O(C)C", 1);
+        Check.dueFound("C2H6O", "O(-C)(-C)", 1);
+        Check.dueFound("C2H6O", "CC=O", IsomerList.NONE);
+        Check.dueFound("C2H6O", "CCC", IsomerList.NONE);
+        Check.dueFound("C2H6O", "C", IsomerList.NONE);
+        Check.dueFound("C6H6", "C1=CC=CC=C1", 200);
+        Check.dueFound("C6H6", "C=1C=CC=CC1", 200);
+        Check.dueFound("C6H6", "C=1C=CC=CC=1", 200);
+        Check.dueFound("C6H6", "C9C=CC=CC=9", 200);
+        Check.dueFound("C6H6", "C-7=CC=CC=C7", 200);
+        Check.dueFound("HCl", "Cl", 0);
+        Check.dueFound("HBr", "Br", 0);
+        Check.dueFound("N2", "N#N", 0);
+        Check.dueFound("CH4", "C", 0);
+        Check.dueFound("CH4", "CC", IsomerList.NONE);
+        Check.dueFound("CH4", "CO", IsomerList.NONE);
+        Check.dueFound("C2H6", "CCO", IsomerList.NONE);
+        Check.dueFound("PH3", "N", IsomerList.NONE);
+        Check.dueFound("C2H6O", "CCS", IsomerList.NONE);
+        Check.dueFound("C2H6O", "C(C)(C)(C)(C)", IsomerList.NONE);
         IsomerList list = Check.of("C6H10");
         Check.retype(list, "C1CC1C2CC2");
         int two = list.read();
@@ -188,52 +166,52 @@ public final class PromiseTest {
     }
 
     private static void promise5ReadFaults() {
-        dueRead("C2H6O", "", IsomerList.SIGN, 0);
-        dueRead("C2H6O", "x", IsomerList.SIGN, 0);
-        dueRead("C2H6O", "H", IsomerList.SIGN, 0);
-        dueRead("C2H6O", "CH", IsomerList.SIGN, 1);
-        dueRead("C2H6O", "1C", IsomerList.SIGN, 0);
-        dueRead("C2H6O", "=C", IsomerList.SIGN, 0);
-        dueRead("C2H6O", "(C)", IsomerList.SIGN, 0);
-        dueRead("C2H6O", "C0", IsomerList.SIGN, 1);
-        dueRead("C2H6O", "C=", IsomerList.SIGN, 2);
-        dueRead("C2H6O", "C==C", IsomerList.SIGN, 2);
-        dueRead("C2H6O", "C()", IsomerList.SIGN, 2);
-        dueRead("C2H6O", "C(", IsomerList.SIGN, 2);
-        dueRead("C2H6O", "C(=", IsomerList.SIGN, 3);
-        dueRead("C2H6O", "C(1)", IsomerList.SIGN, 2);
-        dueRead("C2H6O", "C=(C)", IsomerList.SIGN, 2);
-        dueRead("C2H6O", "C((C))", IsomerList.SIGN, 2);
-        dueRead("C2H6O", "C(C", IsomerList.SIGN, 3);
-        dueRead("C2H6O", "C1(C", IsomerList.SIGN, 4);
-        dueRead("C2H6O", "C)", IsomerList.SIGN, 1);
-        dueRead("C2H6O", "C(C))", IsomerList.SIGN, 4);
-        dueRead("C2H6O", "C(C=)", IsomerList.SIGN, 4);
-        dueRead("C2H6O", "C(C)1", IsomerList.SIGN, 4);
-        dueRead("C2H6O", "C(C)=1", IsomerList.SIGN, 5);
-        dueRead("C2H6O", "CB", IsomerList.SIGN, 1);
-        dueRead("C2H6O", "C C", IsomerList.SIGN, 1);
-        dueRead("C2H6O", "C\u0000", IsomerList.SIGN, 1);
-        dueRead("C2H6O", "CCCCCCC", IsomerList.HEAVY, 6);
-        dueRead("C2H6O", "ClClClClClClBr", IsomerList.HEAVY, 12);
-        dueRead("C2H6O", "C(C(C(C(C(C(=C", IsomerList.HEAVY, 13);
-        dueRead("C2H6O", "CCCCCCCx", IsomerList.HEAVY, 6);
-        dueRead("C2H6O", "C(C(C(C(C(C(", IsomerList.SIGN, 12);
-        dueRead("C2H6O", "CCCCCCx", IsomerList.SIGN, 6);
-        dueRead("C2H6O", "C11", IsomerList.RING, 2);
-        dueRead("C2H6O", "C1C1", IsomerList.RING, 3);
-        dueRead("C2H6O", "C1(C1)", IsomerList.RING, 4);
-        dueRead("C2H6O", "C12CC12", IsomerList.RING, 6);
-        dueRead("C2H6O", "C=1CC#1", IsomerList.RING, 6);
-        dueRead("C2H6O", "C-1CC=1", IsomerList.RING, 6);
-        dueRead("C2H6O", "C1CC1C1", IsomerList.RING, 7);
-        dueRead("C2H6O", "C1CCx", IsomerList.SIGN, 4);
-        dueRead("C2H6O", "F1FFFF", IsomerList.RING, 6);
-        dueRead("C2H6O", "FFF", IsomerList.VALENCE, 3);
-        dueRead("C2H6O", "C#C=C", IsomerList.VALENCE, 5);
-        dueRead("C2H6O", "O=1CC1", IsomerList.VALENCE, 6);
-        dueRead("C2H6O", "O=O", IsomerList.NONE, IsomerList.NONE);
-        dueRead("C2H6O", "O#C", IsomerList.VALENCE, 3);
+        Check.dueRead("C2H6O", "", IsomerList.SIGN, 0);
+        Check.dueRead("C2H6O", "x", IsomerList.SIGN, 0);
+        Check.dueRead("C2H6O", "H", IsomerList.SIGN, 0);
+        Check.dueRead("C2H6O", "CH", IsomerList.SIGN, 1);
+        Check.dueRead("C2H6O", "1C", IsomerList.SIGN, 0);
+        Check.dueRead("C2H6O", "=C", IsomerList.SIGN, 0);
+        Check.dueRead("C2H6O", "(C)", IsomerList.SIGN, 0);
+        Check.dueRead("C2H6O", "C0", IsomerList.SIGN, 1);
+        Check.dueRead("C2H6O", "C=", IsomerList.SIGN, 2);
+        Check.dueRead("C2H6O", "C==C", IsomerList.SIGN, 2);
+        Check.dueRead("C2H6O", "C()", IsomerList.SIGN, 2);
+        Check.dueRead("C2H6O", "C(", IsomerList.SIGN, 2);
+        Check.dueRead("C2H6O", "C(=", IsomerList.SIGN, 3);
+        Check.dueRead("C2H6O", "C(1)", IsomerList.SIGN, 2);
+        Check.dueRead("C2H6O", "C=(C)", IsomerList.SIGN, 2);
+        Check.dueRead("C2H6O", "C((C))", IsomerList.SIGN, 2);
+        Check.dueRead("C2H6O", "C(C", IsomerList.SIGN, 3);
+        Check.dueRead("C2H6O", "C1(C", IsomerList.SIGN, 4);
+        Check.dueRead("C2H6O", "C)", IsomerList.SIGN, 1);
+        Check.dueRead("C2H6O", "C(C))", IsomerList.SIGN, 4);
+        Check.dueRead("C2H6O", "C(C=)", IsomerList.SIGN, 4);
+        Check.dueRead("C2H6O", "C(C)1", IsomerList.SIGN, 4);
+        Check.dueRead("C2H6O", "C(C)=1", IsomerList.SIGN, 5);
+        Check.dueRead("C2H6O", "CB", IsomerList.SIGN, 1);
+        Check.dueRead("C2H6O", "C C", IsomerList.SIGN, 1);
+        Check.dueRead("C2H6O", "C\u0000", IsomerList.SIGN, 1);
+        Check.dueRead("C2H6O", "CCCCCCC", IsomerList.HEAVY, 6);
+        Check.dueRead("C2H6O", "ClClClClClClBr", IsomerList.HEAVY, 12);
+        Check.dueRead("C2H6O", "C(C(C(C(C(C(=C", IsomerList.HEAVY, 13);
+        Check.dueRead("C2H6O", "CCCCCCCx", IsomerList.HEAVY, 6);
+        Check.dueRead("C2H6O", "C(C(C(C(C(C(", IsomerList.SIGN, 12);
+        Check.dueRead("C2H6O", "CCCCCCx", IsomerList.SIGN, 6);
+        Check.dueRead("C2H6O", "C11", IsomerList.RING, 2);
+        Check.dueRead("C2H6O", "C1C1", IsomerList.RING, 3);
+        Check.dueRead("C2H6O", "C1(C1)", IsomerList.RING, 4);
+        Check.dueRead("C2H6O", "C12CC12", IsomerList.RING, 6);
+        Check.dueRead("C2H6O", "C=1CC#1", IsomerList.RING, 6);
+        Check.dueRead("C2H6O", "C-1CC=1", IsomerList.RING, 6);
+        Check.dueRead("C2H6O", "C1CC1C1", IsomerList.RING, 7);
+        Check.dueRead("C2H6O", "C1CCx", IsomerList.SIGN, 4);
+        Check.dueRead("C2H6O", "F1FFFF", IsomerList.RING, 6);
+        Check.dueRead("C2H6O", "FFF", IsomerList.VALENCE, 3);
+        Check.dueRead("C2H6O", "C#C=C", IsomerList.VALENCE, 5);
+        Check.dueRead("C2H6O", "O=1CC1", IsomerList.VALENCE, 6);
+        Check.dueRead("C2H6O", "O=O", IsomerList.NONE, IsomerList.NONE);
+        Check.dueRead("C2H6O", "O#C", IsomerList.VALENCE, 3);
     }
 
     private static void promise6Place() {
@@ -341,26 +319,17 @@ public final class PromiseTest {
         Check.dueThrow("ways of structure -1", () -> list.ways(-1), NO_SUCH);
     }
 
-    private static void dueWrite(String formula, String... texts) {
-        IsomerList list = Check.of(formula);
-        for (int i = 0; i < texts.length; i++) {
-            Check.due("write " + i + " of " + formula, list.write(i), texts[i].length());
-            Check.due("text " + i + " of " + formula, Check.text(list, texts[i].length()), texts[i]);
-            Check.due("read of " + texts[i], list.read(), i);
-        }
-    }
-
     private static void promise12Write() {
-        dueWrite("C2H6O", "C(C)O", "COC");
-        dueWrite("C3H4", "C(#C)C", "C(=C)=C", "C1=CC1");
-        dueWrite("C4H10", "C(C)(C)C", "C(CC)C");
-        dueWrite("N2", "N#N");
-        dueWrite("HBr", "Br");
-        dueWrite("P4", "P1=PP=P1", "P12P3P1P23");
-        dueWrite("N4H2", "N1=NN1N", "N1=NNN1", "N(=N)N=N", "N12N(N1)N2");
-        dueWrite("C5", "C1#CC12C#C2", "C1#CC=2C1=C=2", "C=1=C=C=C=C=1", "C=1=C2C=3C=1C2=3", "C12=C3C14C2=C34",
+        Check.dueWrite("C2H6O", "C(C)O", "COC");
+        Check.dueWrite("C3H4", "C(#C)C", "C(=C)=C", "C1=CC1");
+        Check.dueWrite("C4H10", "C(C)(C)C", "C(CC)C");
+        Check.dueWrite("N2", "N#N");
+        Check.dueWrite("HBr", "Br");
+        Check.dueWrite("P4", "P1=PP=P1", "P12P3P1P23");
+        Check.dueWrite("N4H2", "N1=NN1N", "N1=NNN1", "N(=N)N=N", "N12N(N1)N2");
+        Check.dueWrite("C5", "C1#CC12C#C2", "C1#CC=2C1=C=2", "C=1=C=C=C=C=1", "C=1=C2C=3C=1C2=3", "C12=C3C14C2=C34",
                 "C124C35C16C23C456");
-        dueWrite("CCl2F2", "C(F)(F)(Cl)Cl");
+        Check.dueWrite("CCl2F2", "C(F)(F)(Cl)Cl");
         IsomerList list = Check.of("C2H6O");
         Check.dueThrow("write of structure 2", () -> list.write(2), NO_SUCH);
         Check.dueThrow("write of structure -1", () -> list.write(-1), NO_SUCH);
