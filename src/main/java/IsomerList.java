@@ -42,19 +42,17 @@ public final class IsomerList {
     private final Lister lister;
     private final Molecule shown;
     private final Catalogue current;
-    private final Catalogue draft;
     private int faultPlace;
 
     public IsomerList() {
         line = new Line();
         formulaReader = new FormulaReader();
         textReader = new TextReader();
+        textWriter = new TextWriter();
         numbering = new Numbering();
+        lister = new Lister();
         shown = new Molecule();
-        textWriter = new TextWriter(line, shown);
         current = new Catalogue();
-        draft = new Catalogue();
-        lister = new Lister(numbering, draft);
         faultPlace = NONE;
     }
 
@@ -75,8 +73,7 @@ public final class IsomerList {
     public int formula() {
         int fault = formulaReader.readFrom(line);
         if (fault == NONE) {
-            draft.take(formulaReader.counts);
-            fault = listDraft();
+            fault = listAnew(formulaReader.counts);
         }
         faultPlace = fault == NONE ? NONE : formulaReader.at;
         return fault == NONE ? current.size : fault;
@@ -135,7 +132,7 @@ public final class IsomerList {
     public int write(int i) throws IndexOutOfBoundsException {
         checkStructure(i);
         shown.build(current, i);
-        textWriter.writeAnew();
+        textWriter.writeAnew(line, shown);
         return line.length;
     }
 
@@ -156,11 +153,13 @@ public final class IsomerList {
     }
 
     // The list is made beside the current one, which must stay if the new one is too long.
-    private int listDraft() {
+    private int listAnew(int[] counts) {
+        Catalogue draft = lister.draft;
+        draft.take(counts);
         if (draft.hasSameFormula(current)) {
             return NONE;
         }
-        lister.fill();
+        lister.fillDraft();
         if (draft.isOverfull()) {
             return MANY;
         }
@@ -549,21 +548,16 @@ public final class IsomerList {
 
     /** Makes all structures of a formula, greatest codes first. */
     private static final class Lister {
-        private final Numbering numbering;
-        private final Catalogue catalogue;
+        private final Catalogue draft = new Catalogue();
+        private final Numbering numbering = new Numbering();
         private final Molecule molecule = new Molecule();
         private final int[] valencesFrom = new int[MOST_ATOMS + 1];
         private final int[] groups = new int[MOST_ATOMS];
 
-        Lister(Numbering numbering, Catalogue catalogue) {
-            this.numbering = numbering;
-            this.catalogue = catalogue;
-        }
-
-        void fill() {
-            molecule.addAtomsOf(catalogue);
+        void fillDraft() {
+            molecule.addAtomsOf(draft);
             sumValences();
-            int ends = valencesFrom[0] - catalogue.hydrogenSum;
+            int ends = valencesFrom[0] - draft.hydrogenSum;
             if (ends >= 0 && ends % 2 == 0) {
                 endRow(0, ends / 2, 0);
             }
@@ -584,7 +578,7 @@ public final class IsomerList {
             }
             int shift = rowShift(a) + NUMBER_BITS * (a - 1 - b);
             int most = Math.min(Math.min(MOST_BONDS, left), Math.min(molecule.free[a], molecule.free[b]));
-            for (int number = most; number >= 0 && !catalogue.isOverfull(); number--) {
+            for (int number = most; number >= 0 && !draft.isOverfull(); number--) {
                 molecule.bind(a, b, number);
                 bindOn(a, b + 1, left - number, code | number << shift);
             }
@@ -597,7 +591,7 @@ public final class IsomerList {
                 return;
             }
             if (done >= molecule.atoms) {
-                catalogue.add(code);
+                draft.add(code);
             } else {
                 bindOn(done, 0, left, code);
             }
@@ -640,30 +634,26 @@ public final class IsomerList {
         private final int[] cameFrom = new int[MOST_ATOMS];
         private final int[] ringStarts = new int[HIGHEST_DIGIT + 1];
         private final int[] ringEnds = new int[HIGHEST_DIGIT + 1];
-        private final Line line;
-        private final Molecule molecule;
         private int rings;
 
-        TextWriter(Line line, Molecule molecule) {
-            this.line = line;
-            this.molecule = molecule;
-        }
-
-        void writeAnew() {
+        void writeAnew(Line line, Molecule molecule) {
             rings = 0;
             Arrays.fill(cameFrom, NOT_YET);
             // Rings are met on the way back to atoms whose sign stands earlier, so all are found first.
-            goThrough(0, NONE);
+            goThrough(molecule, 0, NONE, 0);
             line.clear();
-            putAtom(0);
+            putAtom(line, molecule, 0, 0);
         }
 
-        private void goThrough(int a, int before) {
+        private void goThrough(Molecule molecule, int a, int before, int depth) {
+            if (depth >= MOST_ATOMS) {
+                return;
+            }
             cameFrom[a] = before;
             for (int b = 0; b < molecule.atoms; b++) {
                 if (molecule.between(a, b) > 0) {
                     if (cameFrom[b] == NOT_YET) {
-                        goThrough(b, a);
+                        goThrough(molecule, b, a, depth + 1);
                     } else if (b != before) {
                         meetRing(a, b);
                     }
@@ -684,28 +674,28 @@ public final class IsomerList {
             }
         }
 
-        private void putAtom(int a) {
+        private void putAtom(Line line, Molecule molecule, int a, int depth) {
+            if (depth >= MOST_ATOMS) {
+                return;
+            }
             line.addElement(molecule.kinds[a]);
-            putRings(a);
+            putRings(line, molecule, a);
             int last = lastFurtherOn(a);
             for (int b = 0; b < last; b++) {
                 if (cameFrom[b] == a) {
                     line.add('(');
-                    putBound(a, b);
+                    line.addBond(molecule.between(a, b));
+                    putAtom(line, molecule, b, depth + 1);
                     line.add(')');
                 }
             }
             if (last != NONE) {
-                putBound(a, last);
+                line.addBond(molecule.between(a, last));
+                putAtom(line, molecule, last, depth + 1);
             }
         }
 
-        private void putBound(int a, int b) {
-            line.addBond(molecule.between(a, b));
-            putAtom(b);
-        }
-
-        private void putRings(int a) {
+        private void putRings(Line line, Molecule molecule, int a) {
             for (int digit = 1; digit <= rings; digit++) {
                 if (ringStarts[digit] == a || ringEnds[digit] == a) {
                     line.addBond(molecule.between(ringStarts[digit], ringEnds[digit]));
@@ -715,7 +705,7 @@ public final class IsomerList {
         }
 
         private int lastFurtherOn(int a) {
-            for (int b = molecule.atoms - 1; b >= 0; b--) {
+            for (int b = MOST_ATOMS - 1; b >= 0; b--) {
                 if (cameFrom[b] == a) {
                     return b;
                 }
